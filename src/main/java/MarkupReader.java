@@ -303,7 +303,6 @@ public final class MarkupReader {
 
         void begin(Element outer) {
             around = outer;
-            isEmpty = false;
             depth = outer == null ? 1 : outer.depth + 1;
             elementsInside = 0;
             attributeCount = 0;

@@ -105,6 +105,12 @@ public final class PromisesTest {
         Checks.due("the tree while other text is typed", Checks.name(reader, 0) + Checks.name(reader, 2), "cb");
         Checks.dueThrow("read of what is not ended", ARGUMENT, reader::read);
         dueNoTree("read of what is not ended", reader);
+        MarkupReader often = Checks.typed("<a b='" + "x".repeat(40) + "'>" + "y".repeat(40) + "</a>");
+        for (int i = 0; i < 400; i++) {
+            often.read();
+        }
+        Checks.due("read again and again", Checks.form(often),
+                "<a b=\"" + "x".repeat(40) + "\">" + "y".repeat(40) + "</a>");
         StringBuilder most = new StringBuilder("<a>");
         for (int i = 0; i < 23; i++) {
             most.append("<b/>");

@@ -48,7 +48,7 @@ public final class ReasonsTest {
 
     private static void rightTexts() {
         right("<a/>", "<a />", "<a\n/>", "<a></a>", "<a ></a >", "<a\n ></a \n>", "<a:b xmlns:a='u'/>");
-        right("<_/>", "<a.-9_/>", "<Z></Z>", "<xmlns/>", "<xml/>", "<xmlns></xmlns>");
+        right("<_/>", "<a.-9_0/>", "<Z></Z>", "<xmlns/>", "<xml/>", "<xmlns></xmlns>");
         right("\n <!--x--> <!---->\n<a/> <!--y-->\n", "<!--a--><!--b--><a/><!--c--><!--d-->");
         right("<a b=''/>", "<a b = \"\"/>", "<a\nb\n=\n'x'\n/>", "<a b='\"' c=\"'\"/>", "<a b='>]]>-->\n'/>");
         right("<a>]]</a>", "<a>]]]</a>", "<a>] ]></a>", "<a>>--></a>", "<a>\"'=/!</a>", "<a>]]&gt;</a>");
@@ -159,7 +159,7 @@ public final class ReasonsTest {
         due("<a xmlns:xmlns='u'/>", "6 at 3");
         due("<a b='' xmlns:q='u' xmlns:xml='' xmlns:p=''/>", "6 at 20");
         due("<a xmlns:p='u'><b xmlns:p=''/></a>", "6 at 18");
-        right("<a xmlns=''/>", "<a xmlns:p=' '/>", "<a xmlns:p='\n'/>", "<a xmlns:XML='u'/>", "<a xmlns:xmlx='u' xmlns:xm='u'/>",
+        right("<a xmlns=''/>", "<a xmlns:p=' '/>", "<a xmlns:p='\n'/>", "<a xmlns:XML='u'/>", "<a xmlns:xmlx='u' xmlns:xm='u' xmlns:yml='u'/>",
                 "<a xmlns:p='u'><b xmlns=''/></a>", "<a XMLNS=''/>");
     }
 
@@ -175,6 +175,9 @@ public final class ReasonsTest {
         due("<xmlns:a/>", "7 at 1");
         due("<a xml:b=''/>", "7 at 3");
         due("<P:a xmlns:p='u'/>", "7 at 1");
+        due("<a ymlns:p='u'/>", "7 at 3");
+        due("<a xmlnt:p='u'/>", "7 at 3");
+        due("<a xmln:p='u'/>", "7 at 3");
         due("<pp:a xmlns:p='u'/>", "7 at 1");
         due("<p:a xmlns:pp='u'/>", "7 at 1");
         due("<p:a", "1 at 4");
