@@ -611,7 +611,8 @@ public final class PromisesTest {
             due(other, Checks.rereadAs(reader, other), "right");
             due("same, of " + other, reader.same(), false);
         }
-        String[] alike = {"<a\nc=\"&#50;\" b='1'><!-- -->x</a>", " <a c='2' b='1'><![CDATA[x]]></a\n>", "<a b=\"1\" c=\"2\" xmlns=''>&#x78;</a>"};
+        String[] alike = {"<a\nc=\"&#50;\" b='1'><!-- -->x</a>", " <a c='2' b='1'><![CDATA[x]]></a\n>",
+            "<a b=\"1\" c=\"2\" xmlns=''>&#x78;</a>"};
         for (String text : alike) {
             due(text, Checks.rereadAs(reader, text), "right");
             due("same, of " + text, reader.same(), true);

@@ -196,7 +196,10 @@ public final class ReasonsTest {
         Texts.right("<a xmlns:p='u'><b xmlns=''/></a>", "<a xmlns='xml'/>", "<a xml=''/>", "<a xmlns:p='xmlns' p:xml=''/>");
     }
 
-    /** "7 the prefix of the element's name, or of an attribute that is no declaration, is declared nowhere (at its name), the first one of these" */
+    /**
+     * "7 the prefix of the element's name, or of an attribute that is no declaration, is declared nowhere
+     * (at its name), the first one of these"
+     */
     private static void reason7IsAPrefixDeclaredNowhere() {
         due("<p:a/>", "7 at 1");
         due(" <p:a></p:a>", "7 at 2");
@@ -226,7 +229,8 @@ public final class ReasonsTest {
         due("<a xmlns:p='u' xmlns:q='u'><b><c p:x='' q:x=''/></b></a>", "8 at 40");
         Texts.right("<a xmlns:p='u' xmlns:q='v' p:x='' q:x=''/>", "<a xmlns:p='u' xmlns:q='u' p:x='' q:y=''/>");
         Texts.right("<a xmlns='u' xmlns:p='u' x='' p:x=''/>", "<a xmlns:p='u'><b xmlns:p='v' xmlns:q='u' p:x='' q:x=''/></a>");
-        Texts.right("<a xmlns:p='u' xmlns:q='uu' p:x='' q:x=''/>", "<a xmlns:b='u' xmlns:c='u' b:b=''/>", "<a xmlns:p='u' p:p='' p:xmlns=''/>");
+        Texts.right("<a xmlns:p='u' xmlns:q='uu' p:x='' q:x=''/>", "<a xmlns:b='u' xmlns:c='u' b:b=''/>",
+                "<a xmlns:p='u' p:p='' p:xmlns=''/>");
         Texts.right("<a xmlns:p='u' xmlns:q='u' p:x='' q:xx='' p:xy=''/>", "<a xmlns:p='u' xmlns:q='u' p:x=''><b q:x=''/></a>");
     }
 

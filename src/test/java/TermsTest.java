@@ -207,7 +207,9 @@ public final class TermsTest {
 
     /** "A SECTION is <![CDATA[ and any characters up to the first ]]>, which ends it: these characters." */
     private static void aSectionEndsAtTheFirstEnd() {
-        for (String inside : new String[] {"", "]", "]]", "]]]", "]] >", "]>", ">", "<", "&", "&lt;", "<b>", "--", "<![CDATA[", "</a>", "\n"}) {
+        String[] insides = {"", "]", "]]", "]]]", "]] >", "]>", "x]>", "]x>", "]x]>", ">", "<", "&", "&lt;", "<b>", "--", "<![CDATA[",
+            "</a>", "\n"};
+        for (String inside : insides) {
             Texts.contentIs("<a><![CDATA[" + inside + "]]></a>", inside);
         }
         Texts.contentIs("<a><![CDATA[x]]>]]<![CDATA[y]]></a>", "x]]y");
@@ -282,7 +284,8 @@ public final class TermsTest {
                 dueNoReference("&#x4" + c + "1;");
             }
         }
-        for (String other : new String[] {"&#", "&#;", "&#6", "&#65", "&#x", "&#x;", "&#x4", "&#x41", "&#X41;", "&# 65;", "&#65 ;", "&#x 41;", "&x41;"}) {
+        String[] others = {"&#", "&#;", "&#6", "&#65", "&#x", "&#x;", "&#x4", "&#x41", "&#X41;", "&# 65;", "&#65 ;", "&#x 41;", "&x41;"};
+        for (String other : others) {
             dueNoReference(other);
         }
         Texts.contentIs("<a>&#x6a;&#x6A;&#x4f;&#x4F;&#x0a;&#x0A;</a>", "jjOO\n\n");
