@@ -6,8 +6,8 @@ final class MadeTexts {
     private static final String[] NAMES = {"a", "b", "bc", "a", "p:a", "q:b"};
     private static final String[] ATTRIBUTES = {" xmlns:q='v:2'", " xmlns='v:2'", " xmlns=''", " xmlns:p='w:3'", " xmlns:q='u:1'",
         " a='\"&#10;'", " p:c=\"&lt;>'\"", "\nb='>\n'", " bc = ''", " q:c='&amp;&#x41;'", " q:b=''", " p:b=' '"};
-    private static final String[] INSIDE = {"x", "&amp;", "<![CDATA[<]]>", "<!-- - -->", "\n", ">", "]]", "\"'", "&#x5d;", "y z",
-        "<![CDATA[]]]>"};
+    private static final String[] INSIDE = {"x", "&amp;", "<![CDATA[<]]>", "<!-- - -->", "\n", ">", "]]", "]", "\"'", "&#x5d;",
+        "y z", "<![CDATA[]]]>"};
     private static final String INSERTED = "<>&;/='\"! -]:\nabpqx";
 
     private long seed;
